@@ -1,0 +1,192 @@
+import java.util.Random;
+
+/** Runs of calls drawn by fixed seeds, each answer compared with the plain model's. */
+public final class RandomRunsTest {
+    private static final String[] NAMES = {
+        "learner", "hours", "claim", "want", "unwant", "bar", "test", "level", "gift", "meet", "ring", "week", "rings",
+        "ringOf", "missed", "waited", "days", "word", "asked", "wordOf", "next", "feed", "correct", "mark", "marks", "count"};
+    private static final int[] PARAMETERS = {
+        1, 2, 3, 2, 1, 3, 4, 3, 2, 2, 4, 0, 0, 2, 1, 1, 1, 1, 3, 3, 1, 5, 2, 1, 1, 1};
+    private static final Check check = new Check("random runs");
+
+    private final Random random;
+    private final TongueSwap real = new TongueSwap();
+    private final PlainModel model = new PlainModel();
+    private final StringBuilder story = new StringBuilder();
+
+    private RandomRunsTest(int seed) {
+        random = new Random(seed);
+    }
+
+    public static void main(String[] args) {
+        int runs = args.length > 0 ? Integer.parseInt(args[0]) : 600;
+        int from = args.length > 1 ? Integer.parseInt(args[1]) : 0;
+        for (int seed = from; seed < from + runs && !check.hasWrong(); seed++) {
+            RandomRunsTest run = new RandomRunsTest(seed);
+            switch (seed % 4) {
+                case 0:
+                    run.anyCalls();
+                    break;
+                case 1:
+                    run.weeks(2 + seed / 4 % 13, 1 + seed % 3);
+                    break;
+                case 2:
+                    run.corrections();
+                    break;
+                default:
+                    run.words();
+            }
+            if (check.hasWrong()) {
+                System.out.println("seed " + seed + ":" + run.story);
+            }
+        }
+        check.end();
+    }
+
+    private void ask(String name, int... p) {
+        String call = name + java.util.Arrays.toString(p);
+        story.append(' ').append(call);
+        check.due(call, Check.answer(() -> callReal(name, p)), Check.answer(() -> model.call(name, p)));
+    }
+
+    private void anyCalls() {
+        for (int i = 0; i < 500; i++) {
+            int k = random.nextInt(NAMES.length);
+            int[] p = new int[PARAMETERS[k]];
+            for (int j = 0; j < p.length; j++) {
+                p[j] = anyNumber();
+            }
+            ask(NAMES[k], p);
+        }
+    }
+
+    private int anyNumber() {
+        switch (random.nextInt(12)) {
+            case 0:
+                return random.nextInt();
+            case 1:
+                return random.nextInt(50) - 5;
+            case 2:
+                return new int[] {Integer.MIN_VALUE, Integer.MAX_VALUE, -1, -2, 1000, 1001, 40, 41}[random.nextInt(8)];
+            default:
+                return random.nextInt(14) - 1;
+        }
+    }
+
+    private int someHours(int density) {
+        int hours = random.nextInt();
+        for (int i = 1; i < density; i++) {
+            hours &= random.nextInt();
+        }
+        return hours;
+    }
+
+    private void weeks(int people, int density) {
+        int tongues = 1 + random.nextInt(8);
+        for (int i = 0; i < people; i++) {
+            ask("learner", someHours(density + 1));
+            for (int k = 0; k < 2; k++) {
+                ask("claim", i, random.nextInt(tongues), 6 + random.nextInt(5));
+                ask("want", i, random.nextInt(tongues));
+            }
+        }
+        for (int w = 0; w < 12; w++) {
+            ask("week");
+            ask("rings");
+            for (int k = 0; k <= real.rings(); k++) {
+                for (int what = 0; what < 6; what++) {
+                    ask("ringOf", k, what);
+                }
+            }
+            for (int i = 0; i < people; i++) {
+                ask("waited", i);
+            }
+            for (int i = 0; i < 3; i++) {
+                ask("missed", random.nextInt(people));
+                ask("bar", random.nextInt(people), random.nextInt(people), random.nextInt(3) == 0 ? 1 : 0);
+                ask("ring", random.nextInt(people), random.nextInt(people), random.nextInt(people + 1) - 1, random.nextInt(3));
+                ask("hours", random.nextInt(people), someHours(density));
+                ask("test", random.nextInt(people), random.nextInt(tongues), 1 + random.nextInt(10), random.nextInt(3));
+                ask("gift", random.nextInt(people), random.nextInt(people));
+            }
+            ask("unwant", random.nextInt(people));
+            ask("want", random.nextInt(people), random.nextInt(tongues));
+            ask("count", random.nextInt(5));
+        }
+    }
+
+    private void corrections() {
+        int letters = 1 + random.nextInt(6);
+        for (int i = 0; i < 8; i++) {
+            int feeds = 1 + random.nextInt(5);
+            for (int k = 0; k < feeds; k++) {
+                ask("feed", letters(letters), letters(letters), letters(letters), letters(letters), letters(letters));
+            }
+            int most = 1 + Math.min(40, 10 * feeds);
+            ask("correct", random.nextInt(most), random.nextInt(most));
+            for (int k = -2; k <= real.mark(-1); k++) {
+                ask("mark", k);
+            }
+            for (int kind = -1; kind <= 5; kind++) {
+                ask("marks", kind);
+            }
+            ask("count", 4);
+        }
+    }
+
+    private int letters(int count) {
+        int four = 0;
+        for (int i = 0; i < 4; i++) {
+            four = four << 8 | 250 + random.nextInt(count);
+        }
+        return four;
+    }
+
+    private void words() {
+        ask("learner", 0);
+        ask("learner", 0);
+        for (int i = 0; i < 120; i++) {
+            int who = random.nextInt(2);
+            if (random.nextInt(3) == 0) {
+                ask("word", who);
+            }
+            ask("next", who);
+            ask("asked", who, random.nextInt(12), random.nextInt(4) == 0 ? 0 : 1);
+            int word = random.nextInt(42);
+            ask("wordOf", who, word, random.nextInt(3));
+            ask("days", random.nextInt(4));
+        }
+    }
+
+    private Object callReal(String name, int[] p) {
+        switch (name) {
+            case "learner": return real.learner(p[0]);
+            case "hours": return real.hours(p[0], p[1]);
+            case "claim": return real.claim(p[0], p[1], p[2]);
+            case "want": return real.want(p[0], p[1]);
+            case "unwant": return real.unwant(p[0]);
+            case "bar": return real.bar(p[0], p[1], p[2] != 0);
+            case "test": return real.test(p[0], p[1], p[2], p[3] != 0);
+            case "level": return real.level(p[0], p[1], p[2]);
+            case "gift": return real.gift(p[0], p[1]);
+            case "meet": return real.meet(p[0], p[1]);
+            case "ring": return real.ring(p[0], p[1], p[2], p[3]);
+            case "week": return real.week();
+            case "rings": return real.rings();
+            case "ringOf": return real.ringOf(p[0], p[1]);
+            case "missed": return real.missed(p[0]);
+            case "waited": return real.waited(p[0]);
+            case "days": return real.days(p[0]);
+            case "word": return real.word(p[0]);
+            case "asked": return real.asked(p[0], p[1], p[2] != 0);
+            case "wordOf": return real.wordOf(p[0], p[1], p[2]);
+            case "next": return real.next(p[0]);
+            case "feed": return real.feed(p[0], p[1], p[2], p[3], p[4]);
+            case "correct": return real.correct(p[0], p[1]);
+            case "mark": return real.mark(p[0]);
+            case "marks": return real.marks(p[0]);
+            case "count": return real.count(p[0]);
+            default: throw new IllegalStateException(name);
+        }
+    }
+}
