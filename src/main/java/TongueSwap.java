@@ -705,8 +705,7 @@ public final class TongueSwap {
                     choice = NONE;
                 }
             }
-            best = Math.max(0, best);
-            memo[free] = weekNumber << WEEK_SHIFT | (long) (choice + 1) << CHOICE_SHIFT | best;
+            memo[free] = weekNumber << WEEK_SHIFT | (long) (choice + 1) << CHOICE_SHIFT | best & LOW_BITS;
             return best;
         }
 
@@ -730,8 +729,6 @@ public final class TongueSwap {
         private static final int WIDTH = MOST_BYTES + 1;
         private static final int STAYS = 0;
         private static final int BECOMES = 1;
-        private static final int GOES = 2;
-        private static final int COMES = 3;
         private static final int SWAPS = 4;
         private static final int CANNOT = 1000000;
         private static final int[] COSTS = {0, 3, 2, 2, 2};
@@ -826,7 +823,7 @@ public final class TongueSwap {
             return COSTS[kind] + costs[nextSaid * WIDTH + nextMeant];
         }
 
-        /** Whether the bytes at a place said and a place meant are as the kind asks; both rows go on so far. */
+        /** Whether the bytes at a place said and a place meant are as the kind asks; both rows go on far enough for it. */
         private boolean fits(int kind, int said, int meant) {
             switch (kind) {
                 case STAYS:
@@ -836,11 +833,8 @@ public final class TongueSwap {
                 case SWAPS:
                     return bytes[said] == bytes[meant + 1] && bytes[said + 1] == bytes[meant]
                         && bytes[said] != bytes[said + 1];
-                case GOES:
-                case COMES:
-                    return true;
                 default:
-                    return false;
+                    return true;
             }
         }
     }

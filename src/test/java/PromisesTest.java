@@ -23,6 +23,7 @@ public final class PromisesTest {
         promise13Waiting();
         promise13Choice();
         promise13FirstSet();
+        promise13Fourteen();
         promise13Longest();
         promise14();
         promise15();
@@ -130,6 +131,8 @@ public final class PromisesTest {
         due("2 a fifteenth", x.learner(1), NONE);
         due("2 learners", x.count(0), 14);
         due("2 the lowest 24 bits", x.hours(13, 0), 0xFFFFFF);
+        check.noSuch("2 no learner 14", () -> x.waited(14));
+        check.noSuch("2 no learner 14", () -> x.ring(0, 1, 14, 0));
     }
 
     private static void promise3() {
@@ -339,6 +342,21 @@ public final class PromisesTest {
         for (int i = 0; i < 3; i++) {
             due("12 given hour " + i, x.ring(0, 1, 2, i), given[i]);
         }
+        x.hours(0, 0b110);
+        x.hours(1, 0b011);
+        x.hours(2, 0b111);
+        // 0 and 1: 1; 1 and 2: 0, 1; 2 and 0: 1, 2.
+        int[] turned = {1, 0, 2};
+        for (int i = 0; i < 3; i++) {
+            due("12 turned hour " + i, x.ring(0, 1, 2, i), turned[i]);
+        }
+        x.hours(0, 0xA00000);
+        x.hours(1, 0xE00000);
+        x.hours(2, 0xE00000);
+        int[] last = {21, 22, 23};
+        for (int i = 0; i < 3; i++) {
+            due("12 last hour " + i, x.ring(0, 1, 2, i), last[i]);
+        }
         x.hours(0, -1);
         x.hours(1, -1);
         x.hours(2, -1);
@@ -439,6 +457,32 @@ public final class PromisesTest {
         due("13 its hours", y.ringOf(0, 3) * 100 + y.ringOf(0, 4) * 10 + y.ringOf(0, 5), 21);
     }
 
+    private static void promise13Fourteen() {
+        TongueSwap x = new TongueSwap();
+        for (int i = 0; i < 14; i++) {
+            x.learner(-1);
+            x.claim(i, i % 2, 9);
+            x.claim(i, 2, 9);
+            x.want(i, 2);
+        }
+        due("13 all fourteen", x.week(), 14);
+        due("13 seven pairs", ringsOf(x), "(0 1)(2 3)(4 5)(6 7)(8 9)(10 11)(12 13)");
+        due("13 the last", x.ringOf(6, 1), 13);
+        x.unwant(0);
+        due("13 thirteen", x.week(), 13);
+        due("13 one of three", ringsOf(x), "(1 2)(3 4)(5 6)(7 8)(9 10)(11 12 13)");
+        due("13 waits", waits(x), "1 0 0 0 0 0 0 0 0 0 0 0 0 0");
+        for (int i = 1; i < 14; i++) {
+            x.unwant(i);
+            x.want(i, 1 - i % 2);
+        }
+        due("13 odd ones and even ones", x.week(), 12);
+        due("13 pairs alone", ringsOf(x), "(1 2)(3 4)(5 6)(7 8)(9 10)(11 12)");
+        due("13 who is left", x.waited(13), 1);
+        due("13 who waited is served", x.week(), 12);
+        due("13 who waited is served", ringsOf(x), "(1 2)(3 4)(5 6)(7 8)(9 10)(12 13)");
+    }
+
     private static void promise13Longest() {
         TongueSwap x = learners(1, 1);
         for (int i = 0; i < 25; i++) {
@@ -502,9 +546,13 @@ public final class PromisesTest {
         x.week();
         due("16 missed", x.missed(3), true);
         due("16 both others", waits(x), "0 0 3 0 3 1");
+        due("16 of two", x.missed(1), true);
+        due("16 the other", waits(x), "3 0 3 0 3 1");
+        due("16 of two", x.missed(0), true);
+        due("16 the other, who missed it too", waits(x), "3 3 3 0 3 1");
         due("16 once", x.missed(3), false);
         due("16 another of the three", x.missed(2), true);
-        due("16 six", waits(x), "0 0 3 3 6 1");
+        due("16 six", waits(x), "3 3 3 3 6 1");
         due("16 not to meet", x.missed(5), false);
         x.learner(1);
         due("16 came later", x.missed(6), false);
