@@ -6,6 +6,14 @@ final class Check {
         Object run();
     }
 
+    interface Maker {
+        TongueSwap make();
+    }
+
+    interface Deed {
+        Object on(TongueSwap x);
+    }
+
     private final String name;
     private int asked;
     private int wrong;
@@ -28,6 +36,21 @@ final class Check {
 
     void illegal(String what, Call call) {
         due(what, answer(call), IllegalArgumentException.class.getSimpleName());
+    }
+
+    /** A call that is refused with this answer (or exception's name): it leaves all as it was. */
+    void refused(String what, Object answer, Maker maker, Deed deed) {
+        TongueSwap x = maker.make();
+        due(what, answer(() -> deed.on(x)), answer);
+        due(what + ": nothing changes", Reading.of(x), Reading.of(maker.make()));
+    }
+
+    void refusedNoSuch(String what, Maker maker, Deed deed) {
+        refused(what, NoSuchElementException.class.getSimpleName(), maker, deed);
+    }
+
+    void refusedIllegal(String what, Maker maker, Deed deed) {
+        refused(what, IllegalArgumentException.class.getSimpleName(), maker, deed);
     }
 
     /** What a call answers, or the name of what it throws. */

@@ -46,73 +46,6 @@ public final class PromisesTest {
         check.due(what, got, due);
     }
 
-    /** As many learners as there are rows of hours, nobody having or wanting anything. */
-    private static TongueSwap learners(int... hours) {
-        TongueSwap x = new TongueSwap();
-        for (int h : hours) {
-            x.learner(h);
-        }
-        return x;
-    }
-
-    /** Learner i has tongue i and wants nothing (at most 8 learners, all of whom can in all hours). */
-    private static TongueSwap masters(int count) {
-        TongueSwap x = new TongueSwap();
-        for (int i = 0; i < count; i++) {
-            x.learner(-1);
-            x.claim(i, i, 8);
-        }
-        return x;
-    }
-
-    private static String ringsOf(TongueSwap x) {
-        StringBuilder text = new StringBuilder();
-        for (int k = 0; k < x.rings(); k++) {
-            text.append('(').append(x.ringOf(k, 0)).append(' ').append(x.ringOf(k, 1));
-            if (x.ringOf(k, 2) != NONE) {
-                text.append(' ').append(x.ringOf(k, 2));
-            }
-            text.append(')');
-        }
-        return text.toString();
-    }
-
-    private static String waits(TongueSwap x) {
-        StringBuilder text = new StringBuilder();
-        for (int i = 0; i < x.count(0); i++) {
-            text.append(i == 0 ? "" : " ").append(x.waited(i));
-        }
-        return text.toString();
-    }
-
-    private static String marksOf(TongueSwap x) {
-        StringBuilder text = new StringBuilder();
-        for (int i = 0; i < x.mark(NONE); i++) {
-            text.append(x.mark(i));
-        }
-        return text.toString();
-    }
-
-    /** Feeds a text, padded with blanks to whole twenties. */
-    private static void feedText(TongueSwap x, String text) {
-        StringBuilder padded = new StringBuilder(text);
-        while (padded.length() % 20 != 0) {
-            padded.append(' ');
-        }
-        for (int at = 0; at < padded.length(); at += 20) {
-            x.feed(four(padded, at), four(padded, at + 4), four(padded, at + 8), four(padded, at + 12), four(padded, at + 16));
-        }
-    }
-
-    private static int four(CharSequence text, int at) {
-        return text.charAt(at) << 24 | text.charAt(at + 1) << 16 | text.charAt(at + 2) << 8 | text.charAt(at + 3);
-    }
-
-    private static int corrected(TongueSwap x, String said, String meant) {
-        feedText(x, said + meant);
-        return x.correct(said.length(), meant.length());
-    }
-
     private static void promise1() {
         TongueSwap x = new TongueSwap();
         for (int what = 0; what <= 4; what++) {
@@ -136,7 +69,7 @@ public final class PromisesTest {
     }
 
     private static void promise3() {
-        TongueSwap x = learners(5, 0x1000000);
+        TongueSwap x = Scene.learners(5, 0x1000000);
         due("3 were", x.hours(0, 0xFF000003), 5);
         due("3 were then", x.hours(0, 8), 3);
         due("3 only 24 bits", x.hours(1, 8), 0);
@@ -148,7 +81,7 @@ public final class PromisesTest {
     }
 
     private static void promise4() {
-        TongueSwap x = learners(0);
+        TongueSwap x = Scene.learners(0);
         due("4 at first", x.claim(0, 7, 10), 0);
         due("4 then", x.claim(0, 7, 0), 10);
         due("4 then", x.claim(0, 7, 3), 0);
@@ -165,7 +98,7 @@ public final class PromisesTest {
     }
 
     private static void promise5() {
-        TongueSwap x = masters(3);
+        TongueSwap x = Scene.masters(3);
         due("5 one", x.want(0, 2), 1);
         due("5 that one is", x.want(0, 2), NONE);
         due("5 two", x.want(0, 1), 2);
@@ -179,7 +112,7 @@ public final class PromisesTest {
     }
 
     private static void promise6() {
-        TongueSwap x = masters(2);
+        TongueSwap x = Scene.masters(2);
         due("6 none", x.unwant(0), 0);
         x.want(0, 1);
         x.want(0, 2);
@@ -192,7 +125,7 @@ public final class PromisesTest {
     }
 
     private static void promise7() {
-        TongueSwap x = learners(1, 1, 1);
+        TongueSwap x = Scene.learners(1, 1, 1);
         due("7 none", x.bar(0, 1, false), false);
         due("7 none yet", x.bar(0, 1, true), false);
         due("7 both ways", x.bar(1, 0, true), true);
@@ -208,7 +141,7 @@ public final class PromisesTest {
     }
 
     private static void promise8() {
-        TongueSwap x = learners(0);
+        TongueSwap x = Scene.learners(0);
         due("8 passed", x.test(0, 0, 5, true), true);
         due("8 low", x.level(0, 0, 0), 4);
         due("8 passed less", x.test(0, 0, 2, true), true);
@@ -237,7 +170,7 @@ public final class PromisesTest {
     }
 
     private static void promise9() {
-        TongueSwap x = learners(0);
+        TongueSwap x = Scene.learners(0);
         int[] first = {0, 10, 0, 0, 0, 0};
         for (int what = 0; what < 6; what++) {
             due("9 at first " + what, x.level(0, 3, what), first[what]);
@@ -261,7 +194,7 @@ public final class PromisesTest {
     }
 
     private static void promise10() {
-        TongueSwap x = masters(3);
+        TongueSwap x = Scene.masters(3);
         x.want(0, 5);
         x.want(0, 1);
         due("10 the second want", x.gift(1, 0), 1);
@@ -277,7 +210,7 @@ public final class PromisesTest {
     }
 
     private static void promise11() {
-        TongueSwap x = learners(0x800001, 0x800000, 6, 12);
+        TongueSwap x = Scene.learners(0x800001, 0x800000, 6, 12);
         due("11 the last hour", x.meet(0, 1), 23);
         due("11 none", x.meet(0, 2), NONE);
         due("11 the least", x.meet(2, 3), 2);
@@ -290,7 +223,7 @@ public final class PromisesTest {
     }
 
     private static void promise12OfTwo() {
-        TongueSwap x = masters(3);
+        TongueSwap x = Scene.masters(3);
         x.want(0, 1);
         due("12 one way", x.ring(0, 1, NONE, 0), NONE);
         x.want(1, 0);
@@ -311,7 +244,7 @@ public final class PromisesTest {
     }
 
     private static void promise12OfThree() {
-        TongueSwap x = masters(3);
+        TongueSwap x = Scene.masters(3);
         x.want(1, 0);
         x.want(2, 1);
         x.want(0, 2);
@@ -374,25 +307,25 @@ public final class PromisesTest {
     }
 
     private static void promise13Waiting() {
-        TongueSwap x = masters(3);
+        TongueSwap x = Scene.masters(3);
         x.want(0, 1);
         x.want(0, 2);
         x.want(1, 0);
         x.want(2, 0);
         due("13 two meet", x.week(), 2);
-        due("13 the first ones", ringsOf(x), "(0 1)");
-        due("13 waits", waits(x), "0 0 1");
+        due("13 the first ones", Scene.rings(x), "(0 1)");
+        due("13 waits", Scene.waits(x), "0 0 1");
         due("13 two meet", x.week(), 2);
-        due("13 who waited", ringsOf(x), "(0 2)");
-        due("13 waits", waits(x), "0 1 0");
+        due("13 who waited", Scene.rings(x), "(0 2)");
+        due("13 waits", Scene.waits(x), "0 1 0");
         x.week();
-        due("13 in turns", ringsOf(x), "(0 1)");
+        due("13 in turns", Scene.rings(x), "(0 1)");
         due("13 LEARNERS of RINGS", x.count(3), 6);
     }
 
     private static void promise13Choice() {
         // 0 with 1, 2 with 3, and 1 with 2: two rings serve more than the one between them.
-        TongueSwap x = masters(4);
+        TongueSwap x = Scene.masters(4);
         x.want(0, 1);
         x.want(1, 0);
         x.want(1, 2);
@@ -400,17 +333,17 @@ public final class PromisesTest {
         x.want(2, 3);
         x.want(3, 2);
         due("13 all", x.week(), 4);
-        due("13 rings", ringsOf(x), "(0 1)(2 3)");
+        due("13 rings", Scene.rings(x), "(0 1)(2 3)");
         // 0, 1, 2 in a triangle serve more than the pair of 0 and 1.
-        TongueSwap y = masters(3);
+        TongueSwap y = Scene.masters(3);
         y.want(0, 1);
         y.want(0, 2);
         y.want(1, 0);
         y.want(2, 1);
         due("13 three", y.week(), 3);
-        due("13 the triangle", ringsOf(y), "(0 1 2)");
+        due("13 the triangle", Scene.rings(y), "(0 1 2)");
         // Who waited longest counts more: 0 with 1 against 2 with 0.
-        TongueSwap z = masters(3);
+        TongueSwap z = Scene.masters(3);
         z.want(0, 1);
         z.want(0, 2);
         z.want(1, 0);
@@ -420,9 +353,9 @@ public final class PromisesTest {
             z.week();
         }
         z.bar(0, 2, false);
-        due("13 waits", waits(z), "0 0 3");
+        due("13 waits", Scene.waits(z), "0 0 3");
         z.week();
-        due("13 who waited longest", ringsOf(z), "(0 2)");
+        due("13 who waited longest", Scene.rings(z), "(0 2)");
     }
 
     private static void promise13FirstSet() {
@@ -434,18 +367,18 @@ public final class PromisesTest {
             x.want(i, 0);
         }
         due("13 six", x.week(), 6);
-        due("13 fewer of three", ringsOf(x), "(0 1)(2 3)(4 5)");
+        due("13 fewer of three", Scene.rings(x), "(0 1)(2 3)(4 5)");
         // Of seven one ring must be of three: the pair (0 1) stands ahead of (0 1 2).
         x.learner(-1);
         x.claim(6, 0, 9);
         x.want(6, 0);
         due("13 seven", x.week(), 7);
-        due("13 a row ahead of one that goes on", ringsOf(x), "(0 1)(2 3)(4 5 6)");
+        due("13 a row ahead of one that goes on", Scene.rings(x), "(0 1)(2 3)(4 5 6)");
         x.bar(0, 1, true);
         x.week();
-        due("13 the next row", ringsOf(x), "(0 2)(1 3)(4 5 6)");
+        due("13 the next row", Scene.rings(x), "(0 2)(1 3)(4 5 6)");
         // 0 gives to 2, 2 to 1, 1 to 0: the row (0 2 1).
-        TongueSwap y = masters(3);
+        TongueSwap y = Scene.masters(3);
         y.want(2, 0);
         y.want(1, 2);
         y.want(0, 1);
@@ -453,7 +386,7 @@ public final class PromisesTest {
         y.hours(1, 0b110);
         y.hours(2, 0b111);
         due("13 the other way", y.week(), 3);
-        due("13 the other way", ringsOf(y), "(0 2 1)");
+        due("13 the other way", Scene.rings(y), "(0 2 1)");
         due("13 its hours", y.ringOf(0, 3) * 100 + y.ringOf(0, 4) * 10 + y.ringOf(0, 5), 21);
     }
 
@@ -466,35 +399,35 @@ public final class PromisesTest {
             x.want(i, 2);
         }
         due("13 all fourteen", x.week(), 14);
-        due("13 seven pairs", ringsOf(x), "(0 1)(2 3)(4 5)(6 7)(8 9)(10 11)(12 13)");
+        due("13 seven pairs", Scene.rings(x), "(0 1)(2 3)(4 5)(6 7)(8 9)(10 11)(12 13)");
         due("13 the last", x.ringOf(6, 1), 13);
         x.unwant(0);
         due("13 thirteen", x.week(), 13);
-        due("13 one of three", ringsOf(x), "(1 2)(3 4)(5 6)(7 8)(9 10)(11 12 13)");
-        due("13 waits", waits(x), "1 0 0 0 0 0 0 0 0 0 0 0 0 0");
+        due("13 one of three", Scene.rings(x), "(1 2)(3 4)(5 6)(7 8)(9 10)(11 12 13)");
+        due("13 waits", Scene.waits(x), "1 0 0 0 0 0 0 0 0 0 0 0 0 0");
         for (int i = 1; i < 14; i++) {
             x.unwant(i);
             x.want(i, 1 - i % 2);
         }
         due("13 odd ones and even ones", x.week(), 12);
-        due("13 pairs alone", ringsOf(x), "(1 2)(3 4)(5 6)(7 8)(9 10)(11 12)");
+        due("13 pairs alone", Scene.rings(x), "(1 2)(3 4)(5 6)(7 8)(9 10)(11 12)");
         due("13 who is left", x.waited(13), 1);
         due("13 who waited is served", x.week(), 12);
-        due("13 who waited is served", ringsOf(x), "(1 2)(3 4)(5 6)(7 8)(9 10)(12 13)");
+        due("13 who waited is served", Scene.rings(x), "(1 2)(3 4)(5 6)(7 8)(9 10)(12 13)");
     }
 
     private static void promise13Longest() {
-        TongueSwap x = learners(1, 1);
+        TongueSwap x = Scene.learners(1, 1);
         for (int i = 0; i < 25; i++) {
             x.week();
         }
-        due("13 at most 20", waits(x), "20 20");
+        due("13 at most 20", Scene.waits(x), "20 20");
         due("13 DAY", x.count(1), 175);
         due("13 weeks", x.count(2), 25);
     }
 
     private static void promise14() {
-        TongueSwap x = masters(4);
+        TongueSwap x = Scene.masters(4);
         x.want(0, 1);
         x.want(1, 0);
         x.want(2, 3);
@@ -512,7 +445,7 @@ public final class PromisesTest {
     }
 
     private static void promise15() {
-        TongueSwap x = masters(5);
+        TongueSwap x = Scene.masters(5);
         x.want(0, 4);
         x.want(4, 0);
         x.want(2, 1);
@@ -536,7 +469,7 @@ public final class PromisesTest {
     }
 
     private static void promise16() {
-        TongueSwap x = masters(6);
+        TongueSwap x = Scene.masters(6);
         x.want(0, 1);
         x.want(1, 0);
         x.want(3, 2);
@@ -545,20 +478,20 @@ public final class PromisesTest {
         due("16 before a week", x.missed(0), false);
         x.week();
         due("16 missed", x.missed(3), true);
-        due("16 both others", waits(x), "0 0 3 0 3 1");
+        due("16 both others", Scene.waits(x), "0 0 3 0 3 1");
         due("16 of two", x.missed(1), true);
-        due("16 the other", waits(x), "3 0 3 0 3 1");
+        due("16 the other", Scene.waits(x), "3 0 3 0 3 1");
         due("16 of two", x.missed(0), true);
-        due("16 the other, who missed it too", waits(x), "3 3 3 0 3 1");
+        due("16 the other, who missed it too", Scene.waits(x), "3 3 3 0 3 1");
         due("16 once", x.missed(3), false);
         due("16 another of the three", x.missed(2), true);
-        due("16 six", waits(x), "3 3 3 3 6 1");
+        due("16 six", Scene.waits(x), "3 3 3 3 6 1");
         due("16 not to meet", x.missed(5), false);
         x.learner(1);
         due("16 came later", x.missed(6), false);
         x.week();
         due("16 again in another week", x.missed(3), true);
-        due("16 waits", waits(x), "0 0 3 0 3 2 1");
+        due("16 waits", Scene.waits(x), "0 0 3 0 3 2 1");
         x.unwant(0);
         x.week();
         due("16 not this week", x.missed(0), false);
@@ -567,7 +500,7 @@ public final class PromisesTest {
     }
 
     private static void promise17() {
-        TongueSwap x = masters(3);
+        TongueSwap x = Scene.masters(3);
         due("17 at first", x.waited(0), 0);
         x.week();
         x.week();
@@ -575,7 +508,7 @@ public final class PromisesTest {
         x.want(0, 1);
         x.want(1, 0);
         x.week();
-        due("17 met", waits(x), "0 0 3");
+        due("17 met", Scene.waits(x), "0 0 3");
         check.noSuch("17 learner", () -> x.waited(3));
         check.noSuch("17 learner", () -> x.waited(-1));
     }
@@ -591,7 +524,7 @@ public final class PromisesTest {
     }
 
     private static void promise19() {
-        TongueSwap x = learners(0, 0);
+        TongueSwap x = Scene.learners(0, 0);
         x.days(9);
         for (int i = 0; i < 40; i++) {
             due("19 number", x.word(0), i);
@@ -604,7 +537,7 @@ public final class PromisesTest {
     }
 
     private static void promise20() {
-        TongueSwap x = learners(0);
+        TongueSwap x = Scene.learners(0);
         x.word(0);
         int[] boxes = {1, 2, 3, 4, 5, 5};
         int[] spans = {2, 4, 8, 16, 32, 32};
@@ -628,7 +561,7 @@ public final class PromisesTest {
     }
 
     private static void promise21() {
-        TongueSwap x = learners(0);
+        TongueSwap x = Scene.learners(0);
         check.noSuch("21 no word yet", () -> x.wordOf(0, 0, 0));
         x.days(3);
         x.word(0);
@@ -642,7 +575,7 @@ public final class PromisesTest {
     }
 
     private static void promise22() {
-        TongueSwap x = learners(0);
+        TongueSwap x = Scene.learners(0);
         due("22 no words", x.next(0), NONE);
         for (int i = 0; i < 4; i++) {
             x.word(0);
@@ -676,7 +609,7 @@ public final class PromisesTest {
         y.feed(0x80FF0102, 0x03040506, 0x0708090A, 0x0B80FF01, 0x02030405);
         // 80FF0102030405060708 becomes 090A0B80FF0102030405.
         due("23 the highest first", y.correct(10, 10), 12);
-        due("23 marks", marksOf(y), "3330000000222");
+        due("23 marks", Scene.marks(y), "3330000000222");
         TongueSwap z = new TongueSwap();
         z.feed(0x01020304, 0, 0, 0, 0);
         z.feed(0x05060708, 0, 0, 0, 0x01020304);
@@ -686,16 +619,16 @@ public final class PromisesTest {
     private static void promise24() {
         TongueSwap x = new TongueSwap();
         due("24 nothing", x.correct(0, 0), 0);
-        due("24 alike", corrected(x, "hello", "hello"), 0);
-        due("24 another", corrected(x, "cat", "cut"), 3);
-        due("24 goes", corrected(x, "cart", "cat"), 2);
-        due("24 comes", corrected(x, "cat", "cart"), 2);
-        due("24 places", corrected(x, "teh", "the"), 2);
-        due("24 two others", corrected(x, "ab", "xy"), 6);
-        due("24 all go", corrected(x, "abcd", ""), 8);
-        due("24 a change of places has nothing between", corrected(x, "ab", "bxa"), 6);
+        due("24 alike", Scene.corrected(x, "hello", "hello"), 0);
+        due("24 another", Scene.corrected(x, "cat", "cut"), 3);
+        due("24 goes", Scene.corrected(x, "cart", "cat"), 2);
+        due("24 comes", Scene.corrected(x, "cat", "cart"), 2);
+        due("24 places", Scene.corrected(x, "teh", "the"), 2);
+        due("24 two others", Scene.corrected(x, "ab", "xy"), 6);
+        due("24 all go", Scene.corrected(x, "abcd", ""), 8);
+        due("24 a change of places has nothing between", Scene.corrected(x, "ab", "bxa"), 6);
         due("24 empty then", x.count(4), 0);
-        feedText(x, "abcdefghijklmnopqrst");
+        Scene.feedText(x, "abcdefghijklmnopqrst");
         check.illegal("24 more than there are", () -> x.correct(10, 11));
         check.illegal("24 more than there are", () -> x.correct(21, 0));
         check.illegal("24 below", () -> x.correct(-1, 5));
@@ -705,7 +638,7 @@ public final class PromisesTest {
         due("24 nothing changed", x.count(4), 20);
         due("24 the latest stays", x.marks(0) * 10 + x.mark(NONE), 14);
         due("24 all of it", x.correct(10, 10), 40 - 10);
-        feedText(x, "aaaaaaaaaaaaaaaaaaaaaaaaaaaaaaaaaaaaaaaaaaaaaaaaaaaaaaaaaaaaaaaaaaaaaaaaaaaaaaaa");
+        Scene.feedText(x, "aaaaaaaaaaaaaaaaaaaaaaaaaaaaaaaaaaaaaaaaaaaaaaaaaaaaaaaaaaaaaaaaaaaaaaaaaaaaaaaa");
         check.illegal("24 above 40", () -> x.correct(41, 0));
         check.illegal("24 above 40", () -> x.correct(0, 41));
         due("24 the longest", x.correct(40, 40), 0);
@@ -714,25 +647,25 @@ public final class PromisesTest {
     private static void promise25() {
         TongueSwap x = new TongueSwap();
         check.noSuch("25 before one", () -> x.mark(0));
-        corrected(x, "abxy", "bay");
-        due("25 marks", marksOf(x), "420");
+        Scene.corrected(x, "abxy", "bay");
+        due("25 marks", Scene.marks(x), "420");
         due("25 how many", x.mark(NONE), 3);
         check.noSuch("25 none", () -> x.mark(3));
         check.noSuch("25 none", () -> x.mark(-2));
         check.noSuch("25 none", () -> x.mark(MAX));
-        corrected(x, "aab", "ab");
-        due("25 the first row", marksOf(x), "020");
-        corrected(x, "ab", "ba");
-        due("25 places", marksOf(x), "4");
-        corrected(x, "ab", "cb");
-        due("25 becomes", marksOf(x), "10");
-        corrected(x, "a", "bc");
-        due("25 becomes ahead of comes", marksOf(x), "13");
-        corrected(x, "ab", "ca");
-        due("25 comes and goes for less than two others", marksOf(x), "302");
-        corrected(x, "aa", "aa");
-        due("25 alike ones stay", marksOf(x), "00");
-        corrected(x, "", "");
+        Scene.corrected(x, "aab", "ab");
+        due("25 the first row", Scene.marks(x), "020");
+        Scene.corrected(x, "ab", "ba");
+        due("25 places", Scene.marks(x), "4");
+        Scene.corrected(x, "ab", "cb");
+        due("25 becomes", Scene.marks(x), "10");
+        Scene.corrected(x, "a", "bc");
+        due("25 becomes ahead of comes", Scene.marks(x), "13");
+        Scene.corrected(x, "ab", "ca");
+        due("25 comes and goes for less than two others", Scene.marks(x), "302");
+        Scene.corrected(x, "aa", "aa");
+        due("25 alike ones stay", Scene.marks(x), "00");
+        Scene.corrected(x, "", "");
         due("25 no marks", x.mark(NONE), 0);
     }
 
@@ -741,8 +674,8 @@ public final class PromisesTest {
         for (int kind = 0; kind < 5; kind++) {
             due("26 before one", x.marks(kind), 0);
         }
-        corrected(x, "hfello wrodlz", "hello, world");
-        due("26 marks", marksOf(x), "020000300442");
+        Scene.corrected(x, "hfello wrodlz", "hello, world");
+        due("26 marks", Scene.marks(x), "020000300442");
         int[] counts = {7, 0, 2, 1, 2};
         for (int kind = 0; kind < 5; kind++) {
             due("26 of kind " + kind, x.marks(kind), counts[kind]);
@@ -752,7 +685,7 @@ public final class PromisesTest {
     }
 
     private static void promise27() {
-        TongueSwap x = masters(4);
+        TongueSwap x = Scene.masters(4);
         x.want(0, 1);
         x.want(1, 0);
         x.week();
