@@ -10,6 +10,7 @@ public final class WeekEdgesTest {
         theGreatestSum();
         theSumComesAheadOfTheNumber();
         theSumComesAheadOfFewerRingsOfThree();
+        theSumComesAheadOfFourRingsOfThree();
         fewerRingsOfThree();
         theFirstSetAsRows();
         aRingAheadOfNone();
@@ -17,6 +18,7 @@ public final class WeekEdgesTest {
         ringsInOrderOfTheirFirst();
         allFourteenMeet();
         thirteenMeet();
+        onlyTheLastOnesMeet();
         whoMeetsHasWaitedZero();
         twentyWeeksAtMost();
         theWeightStopsAtTwenty();
@@ -126,6 +128,47 @@ public final class WeekEdgesTest {
         dueRings("two of three for one WEIGHT more", x, "(0 1 2)(3 4 5)");
     }
 
+    /** The most RINGS of three that a set can have, four, for one WEIGHT more than pairs alone. */
+    private static void theSumComesAheadOfFourRingsOfThree() {
+        int[][] triangles = {{0, 9, 2}, {1, 10, 11}, {3, 4, 5}, {6, 7, 8}};
+        int[][] pairs = {{0, 1}, {2, 5}, {3, 10}, {4, 7}, {6, 9}, {8, 12}};
+        // Pairs by which one triangle has two corners have unlike tongues, so that no side of it is a pair.
+        int[] tongues = {3, 5, 4, 3, 4, 5};
+        TongueSwap x = new TongueSwap();
+        boolean[][] canMeet = new boolean[13][13];
+        for (int i = 0; i < 13; i++) {
+            x.learner(-1);
+        }
+        for (int[] row : triangles) {
+            for (int c = 0; c < 3; c++) {
+                x.claim(row[c], c, 8);
+                x.want(row[c], (c + 2) % 3);
+                allow(canMeet, row[c], row[(c + 1) % 3]);
+            }
+        }
+        for (int p = 0; p < pairs.length; p++) {
+            allow(canMeet, pairs[p][0], pairs[p][1]);
+            for (int who : pairs[p]) {
+                x.claim(who, tongues[p], 8);
+                x.want(who, tongues[p]);
+            }
+        }
+        for (int a = 0; a < 13; a++) {
+            for (int b = a + 1; b < 13; b++) {
+                x.bar(a, b, !canMeet[a][b]);
+            }
+        }
+        x.unwant(11);
+        dueRings("pairs without 11", x, "(0 1)(2 5)(3 10)(4 7)(6 9)(8 12)");
+        x.want(11, 1);
+        dueRings("13 by four of three for 12 by pairs", x, "(0 9 2)(1 10 11)(3 4 5)(6 7 8)");
+    }
+
+    private static void allow(boolean[][] canMeet, int a, int b) {
+        canMeet[a][b] = true;
+        canMeet[b][a] = true;
+    }
+
     /** "of like ones that of fewer RINGS of three". */
     private static void fewerRingsOfThree() {
         dueRings("none for two", Scene.friends(6), "(0 1)(2 3)(4 5)");
@@ -199,6 +242,24 @@ public final class WeekEdgesTest {
         due("they come next", y.week(), 12);
         due("they come next", Scene.rings(y), "(0 1 2)(3 4 5)(6 7 8)(11 12 13)");
         due("two others wait", Scene.waits(y), "0 0 0 0 0 0 0 0 0 1 1 0 0 0");
+    }
+
+    /** Twelve or eleven of fourteen stay out ahead of the only RING. */
+    private static void onlyTheLastOnesMeet() {
+        TongueSwap x = Scene.friends(14);
+        for (int i = 0; i < 12; i++) {
+            x.hours(i, 0);
+        }
+        due("two", x.week(), 2);
+        due("(12 13)", Scene.rings(x), "(12 13)");
+        due("the others wait", Scene.waits(x), "1 1 1 1 1 1 1 1 1 1 1 1 0 0");
+        x.hours(11, -1);
+        due("three", x.week(), 3);
+        due("(11 12 13)", Scene.rings(x), "(11 12 13)");
+        x.hours(0, -1);
+        x.bar(0, 11, true);
+        x.bar(0, 12, true);
+        dueRings("the first and the last, who waited", x, "(0 13)(11 12)");
     }
 
     /** "Those of it MEET: they have waited 0 weeks then, all others one more". */
