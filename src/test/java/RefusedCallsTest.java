@@ -6,8 +6,8 @@ public final class RefusedCallsTest {
     private static final int NONE = TongueSwap.NONE;
     private static final int MIN = Integer.MIN_VALUE;
     private static final int MAX = Integer.MAX_VALUE;
-    /** 32 and 35 would be 0 and 3 as shifts. */
-    private static final int[] NO_LEARNERS = {-1, -2, 3, 4, 13, 14, 32, 35, MIN, MAX};
+    /** As shifts 32 to 34 and -32 to -30 would be the learners 0 to 2. */
+    private static final int[] NO_LEARNERS = {-1, -2, 3, 4, 13, 14, 32, 33, 34, -32, -31, -30, MIN, MAX};
     private static final int[] NO_TONGUES = {-1, 8, 9, 32, MIN, MAX};
     private static final Check check = new Check("refused calls");
 

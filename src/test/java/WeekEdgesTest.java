@@ -176,6 +176,11 @@ public final class WeekEdgesTest {
         // (0 1 2) would come first as a row, but with (3 4 5) there are two of three.
         dueRings("none for two, later as a row", Scene.gifts(6, "01 12 20 34 45 53 0-3 1-4 2-5"), "(0 3)(1 4)(2 5)");
         dueRings("one for one", Scene.friends(3), "(0 1 2)");
+        // The RINGS are (0 1 2), (1 3) and (2 4): the least one stays out as long as the sums are alike.
+        TongueSwap x = Scene.gifts(5, "01 12 20 1-3 2-4");
+        dueRings("4 for 3", x, "(1 3)(2 4)");
+        dueRings("4 for 4, none of three", x, "(1 3)(2 4)");
+        dueRings("4 for 5", x, "(0 1 2)");
     }
 
     /** "of like ones the first: .. where two sets part the RING that is first as a row". */
