@@ -1,4 +1,7 @@
 import java.lang.management.ManagementFactory;
+import java.lang.reflect.Method;
+import java.util.Arrays;
+import java.util.Random;
 
 /** Objects at their fullest: all their 512 calls, the counts then, and the room that they take (promise 27 among them). */
 public final class CallsTest {
@@ -13,6 +16,8 @@ public final class CallsTest {
         theLastWords();
         theLastCorrection();
         weeksWithLearnersBetween();
+        callsFarBeyond();
+        daysThatWrapRound();
         theRoomOfOneObject();
         check.end();
     }
@@ -101,6 +106,50 @@ public final class CallsTest {
         }
         x.unwant(1);
         due("week of nobody", x.week(), 0);
+    }
+
+    /** "what later calls answer is free", but they end, and throw what the face names or nothing (LANGUAGE.md, rule 7). */
+    private static void callsFarBeyond() {
+        for (int seed = 0; seed < 5; seed++) {
+            Random random = new Random(seed);
+            TongueSwap x = seed == 0 ? new TongueSwap() : Scene.fullTown();
+            for (int call = 0; call < 50_000; call++) {
+                throwsNothingElse(x, Caller.NAMES[random.nextInt(Caller.NAMES.length)], random);
+            }
+        }
+    }
+
+    /** Far beyond all calls that are promised the DAY goes round below 0. */
+    private static void daysThatWrapRound() {
+        TongueSwap x = Scene.fullTown();
+        for (int i = 0; i < Integer.MAX_VALUE / 1000 + 1; i++) {
+            x.days(1000);
+            if (i % 1000 == 0) {
+                x.asked(0, i / 1000 % 40, true);
+            }
+        }
+        due("round", x.count(1) < 0, true);
+        Random random = new Random(9);
+        for (int call = 0; call < 20_000; call++) {
+            throwsNothingElse(x, Caller.NAMES[random.nextInt(Caller.NAMES.length)], random);
+        }
+    }
+
+    private static void throwsNothingElse(TongueSwap x, String name, Random random) {
+        int[] arguments = Caller.anyArguments(name, random);
+        Object answer = Check.answer(() -> Caller.call(x, name, arguments));
+        if (!(answer instanceof String)) {
+            return;
+        }
+        boolean isNamed = false;
+        for (Method m : TongueSwap.class.getMethods()) {
+            for (Class<?> type : m.getExceptionTypes()) {
+                isNamed |= m.getName().equals(name) && type.getSimpleName().equals(answer);
+            }
+        }
+        if (!isNamed) {
+            due(name + Arrays.toString(arguments), answer, "what the face names");
+        }
     }
 
     /** Objects are made in constructors, by learner, and once for each size by week: some 40,000 elements in all. */

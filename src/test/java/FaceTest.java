@@ -9,12 +9,32 @@ import java.util.TreeSet;
 /** The face is the document's, and nothing beside it can be seen from outside. */
 public final class FaceTest {
     private static final String[] FACE = {
-        "int learner(int)", "int hours(int,int)", "int claim(int,int,int)", "int want(int,int)", "int unwant(int)",
-        "boolean bar(int,int,boolean)", "boolean test(int,int,int,boolean)", "int level(int,int,int)",
-        "int gift(int,int)", "int meet(int,int)", "int ring(int,int,int,int)", "int week()", "int rings()",
-        "int ringOf(int,int)", "boolean missed(int)", "int waited(int)", "int days(int)", "int word(int)",
-        "boolean asked(int,int,boolean)", "int wordOf(int,int,int)", "int next(int)", "int feed(int,int,int,int,int)",
-        "int correct(int,int)", "int mark(int)", "int marks(int)", "int count(int)"};
+        "int learner(int)",
+        "int hours(int,int) throws NoSuchElementException",
+        "int claim(int,int,int) throws NoSuchElementException, IllegalArgumentException",
+        "int want(int,int) throws NoSuchElementException",
+        "int unwant(int) throws NoSuchElementException",
+        "boolean bar(int,int,boolean) throws NoSuchElementException",
+        "boolean test(int,int,int,boolean) throws NoSuchElementException, IllegalArgumentException",
+        "int level(int,int,int) throws NoSuchElementException",
+        "int gift(int,int) throws NoSuchElementException",
+        "int meet(int,int) throws NoSuchElementException",
+        "int ring(int,int,int,int) throws NoSuchElementException",
+        "int week()",
+        "int rings()",
+        "int ringOf(int,int) throws NoSuchElementException",
+        "boolean missed(int) throws NoSuchElementException",
+        "int waited(int) throws NoSuchElementException",
+        "int days(int) throws IllegalArgumentException",
+        "int word(int) throws NoSuchElementException",
+        "boolean asked(int,int,boolean) throws NoSuchElementException",
+        "int wordOf(int,int,int) throws NoSuchElementException",
+        "int next(int) throws NoSuchElementException",
+        "int feed(int,int,int,int,int)",
+        "int correct(int,int) throws IllegalArgumentException",
+        "int mark(int) throws NoSuchElementException",
+        "int marks(int) throws NoSuchElementException",
+        "int count(int) throws NoSuchElementException"};
 
     public static void main(String[] args) {
         Check check = new Check("face");
@@ -25,7 +45,7 @@ public final class FaceTest {
         Set<String> publicNames = new TreeSet<>();
         for (Method m : face.getDeclaredMethods()) {
             if (!Modifier.isPrivate(m.getModifiers())) {
-                seen.add(m.getReturnType() + " " + m.getName() + types(m.getParameterTypes()));
+                seen.add(m.getReturnType() + " " + m.getName() + types(m.getParameterTypes()) + thrown(m.getExceptionTypes()));
                 publicNames.add(m.getName());
             }
         }
@@ -46,6 +66,7 @@ public final class FaceTest {
         Constructor<?>[] constructors = face.getDeclaredConstructors();
         check.due("constructors", constructors.length, 1);
         check.due("constructor", types(constructors[0].getParameterTypes()), "()");
+        check.due("constructor is public", Modifier.isPublic(constructors[0].getModifiers()), true);
         check.end();
     }
 
@@ -54,6 +75,14 @@ public final class FaceTest {
         Class<?>[] all = Arrays.copyOf(inner, inner.length + 1);
         all[inner.length] = face;
         return all;
+    }
+
+    private static String thrown(Class<?>[] types) {
+        StringBuilder text = new StringBuilder();
+        for (Class<?> type : types) {
+            text.append(text.length() > 0 ? ", " : " throws ").append(type.getSimpleName());
+        }
+        return text.toString();
     }
 
     private static String types(Class<?>[] types) {

@@ -2,11 +2,6 @@ import java.util.Random;
 
 /** Runs of calls drawn by fixed seeds, each answer compared with the plain model's. */
 public final class RandomRunsTest {
-    private static final String[] NAMES = {
-        "learner", "hours", "claim", "want", "unwant", "bar", "test", "level", "gift", "meet", "ring", "week", "rings",
-        "ringOf", "missed", "waited", "days", "word", "asked", "wordOf", "next", "feed", "correct", "mark", "marks", "count"};
-    private static final int[] PARAMETERS = {
-        1, 2, 3, 2, 1, 3, 4, 3, 2, 2, 4, 0, 0, 2, 1, 1, 1, 1, 3, 3, 1, 5, 2, 1, 1, 1};
     private static final int MOST_CALLS = 512;
     private static final Check check = new Check("random runs");
 
@@ -56,30 +51,13 @@ public final class RandomRunsTest {
         }
         String call = name + java.util.Arrays.toString(p);
         story.append(' ').append(call);
-        check.due(call, Check.answer(() -> callReal(name, p)), Check.answer(() -> model.call(name, p)));
+        check.due(call, Check.answer(() -> Caller.call(real, name, p)), Check.answer(() -> model.call(name, p)));
     }
 
     private void anyCalls() {
         for (int i = 0; i < MOST_CALLS; i++) {
-            int k = random.nextInt(NAMES.length);
-            int[] p = new int[PARAMETERS[k]];
-            for (int j = 0; j < p.length; j++) {
-                p[j] = anyNumber();
-            }
-            ask(NAMES[k], p);
-        }
-    }
-
-    private int anyNumber() {
-        switch (random.nextInt(12)) {
-            case 0:
-                return random.nextInt();
-            case 1:
-                return random.nextInt(50) - 5;
-            case 2:
-                return new int[] {Integer.MIN_VALUE, Integer.MAX_VALUE, -1, -2, 1000, 1001, 40, 41}[random.nextInt(8)];
-            default:
-                return random.nextInt(14) - 1;
+            String name = Caller.NAMES[random.nextInt(Caller.NAMES.length)];
+            ask(name, Caller.anyArguments(name, random));
         }
     }
 
@@ -193,38 +171,6 @@ public final class RandomRunsTest {
             int word = random.nextInt(42);
             ask("wordOf", who, word, random.nextInt(3));
             ask("days", random.nextInt(4));
-        }
-    }
-
-    private Object callReal(String name, int[] p) {
-        switch (name) {
-            case "learner": return real.learner(p[0]);
-            case "hours": return real.hours(p[0], p[1]);
-            case "claim": return real.claim(p[0], p[1], p[2]);
-            case "want": return real.want(p[0], p[1]);
-            case "unwant": return real.unwant(p[0]);
-            case "bar": return real.bar(p[0], p[1], p[2] != 0);
-            case "test": return real.test(p[0], p[1], p[2], p[3] != 0);
-            case "level": return real.level(p[0], p[1], p[2]);
-            case "gift": return real.gift(p[0], p[1]);
-            case "meet": return real.meet(p[0], p[1]);
-            case "ring": return real.ring(p[0], p[1], p[2], p[3]);
-            case "week": return real.week();
-            case "rings": return real.rings();
-            case "ringOf": return real.ringOf(p[0], p[1]);
-            case "missed": return real.missed(p[0]);
-            case "waited": return real.waited(p[0]);
-            case "days": return real.days(p[0]);
-            case "word": return real.word(p[0]);
-            case "asked": return real.asked(p[0], p[1], p[2] != 0);
-            case "wordOf": return real.wordOf(p[0], p[1], p[2]);
-            case "next": return real.next(p[0]);
-            case "feed": return real.feed(p[0], p[1], p[2], p[3], p[4]);
-            case "correct": return real.correct(p[0], p[1]);
-            case "mark": return real.mark(p[0]);
-            case "marks": return real.marks(p[0]);
-            case "count": return real.count(p[0]);
-            default: throw new IllegalStateException(name);
         }
     }
 }
