@@ -119,7 +119,7 @@ public final class CallsTest {
         }
     }
 
-    /** Far beyond all calls that are promised the DAY goes round below 0. */
+    /** Far beyond all calls that are promised, where an int can't hold the DAY any more. */
     private static void daysThatWrapRound() {
         TongueSwap x = Scene.fullTown();
         for (int i = 0; i < Integer.MAX_VALUE / 1000 + 1; i++) {
@@ -128,7 +128,6 @@ public final class CallsTest {
                 x.asked(0, i / 1000 % 40, true);
             }
         }
-        due("round", x.count(1) < 0, true);
         Random random = new Random(9);
         for (int call = 0; call < 20_000; call++) {
             throwsNothingElse(x, Caller.NAMES[random.nextInt(Caller.NAMES.length)], random);
